@@ -5,6 +5,7 @@ public final class CountsTest {
         afterUnpack();
         onlyPackAndUnpackCount();
         failedUnpackDoesNotCount();
+        eachCallCountsAnew();
         Check.finish();
     }
 
@@ -92,5 +93,21 @@ public final class CountsTest {
         RingPacker y = new RingPacker();
         Check.due("no stream", y.unpack(), RingPacker.FAILS);
         counts("after a failure of a new object", y, 0, 0, 0, 0);
+    }
+
+    private static void eachCallCountsAnew() {
+        RingPacker x = Check.withText(Check.bytes("that that"));
+        x.pack();
+        x.pack();
+        counts("packed twice", x, 1, 1, 1, 4);
+        x.unpack();
+        x.unpack();
+        counts("unpacked twice", x, 1, 1, 1, 4);
+        int[] stream = Check.streamOf(x);
+        x.trim(stream.length - 1);
+        Check.due("without its last byte", x.unpack(), RingPacker.FAILS);
+        x.append(stream[stream.length - 1]);
+        Check.due("with it again", x.unpack(), 9);
+        counts("unpacked after a failure", x, 1, 1, 1, 4);
     }
 }

@@ -24,6 +24,9 @@ public final class ModelTest {
         for (int turn = 0; turn < 3000; turn++) {
             changedStream(chance, "changed stream " + turn);
         }
+        for (int turn = 0; turn < 1000; turn++) {
+            oneObject(chance, "one object " + turn);
+        }
         int sound = 0;
         for (int turn = 0; turn < 20000; turn++) {
             sound += madeStream(chance, "made stream " + turn) ? 1 : 0;
@@ -70,6 +73,26 @@ public final class ModelTest {
         Check.due(name + " comes back", Check.textOf(x), text);
         Check.due(name + " counts again", Check.countsOf(x), want.counts);
         Check.due(name + " stream stays", Check.streamOf(x), want.bytes);
+    }
+
+    /** Packs and unpacks several texts in turn, so that nothing of the one before may be left over. */
+    private static void oneObject(Random chance, String name) {
+        RingPacker x = new RingPacker();
+        for (int turn = 0; turn < 3; turn++) {
+            int[] text = someText(chance, chance.nextInt(8));
+            text = Arrays.copyOf(text, Math.min(text.length, 52));
+            Model.Result want = Model.pack(text);
+            Check.setText(x, text);
+            Check.due(name + " pack()", x.pack(), want.bytes.length);
+            Check.due(name + " stream", Check.streamOf(x), want.bytes);
+            int last = x.byteAt(x.size() - 1);
+            x.poke(x.size() - 1, last ^ 1 << chance.nextInt(8));
+            x.unpack();
+            x.poke(x.size() - 1, last);
+            Check.due(name + " unpack()", x.unpack(), text.length);
+            Check.due(name + " text", Check.textOf(x), text);
+            Check.due(name + " counts", Check.countsOf(x), want.counts);
+        }
     }
 
     private static void unpackLikeModel(int[] stream, String name) {

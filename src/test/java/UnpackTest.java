@@ -102,6 +102,11 @@ public final class UnpackTest {
             new BitsOut().rawBlock(false, long64).rawBlock(true, FORTY.substring(0, 33)));
         yields("96 bytes with a copy", FORTY + FORTY.substring(0, 23) + "W".repeat(33), copyBehind64(32, 6));
         fails("97 bytes with a copy", copyBehind64(33, 7));
+        BitsOut singles = new BitsOut();
+        for (char c : full.toCharArray()) {
+            singles.rawBlock(false, String.valueOf(c));
+        }
+        yields("96 blocks of one byte, then the empty end", full, singles.raw("11"));
         fails("a 97th byte in a block of its own", new BitsOut().rawBlock(false, long64)
             .rawBlock(false, FORTY.substring(0, 32)).rawBlock(true, "x"));
     }
