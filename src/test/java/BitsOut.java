@@ -5,7 +5,7 @@ final class BitsOut {
     /** A number of n bits, its lowest bit first. */
     BitsOut num(int number, int n) {
         for (int k = 0; k < n; k++) {
-            bits.append((number >> k) & 1);
+            bits.append(k < 31 ? (number >> k) & 1 : 0);
         }
         return this;
     }
@@ -45,6 +45,25 @@ final class BitsOut {
         return this;
     }
 
+    /** A 7 and how many symbols do not occur. */
+    BitsOut run(int symbols) {
+        return num(7, 3).num(symbols - 3, 4);
+    }
+
+    /** The numbers of bits of as many symbols. */
+    BitsOut lengths(int... numbers) {
+        for (int number : numbers) {
+            num(number, 3);
+        }
+        return this;
+    }
+
+    /** A coded block of n literals p (6 .. 64), each of one bit, to shift what follows as far as one likes. */
+    BitsOut literalsOfOneBit(boolean last, int n) {
+        return head(last, true, n).raw("0").simple(8, 'p', 'q').simple(5, 24).simple(4, 0)
+            .num(n - 6, 6).num(0, n);
+    }
+
     int length() {
         return bits.length();
     }
@@ -54,6 +73,13 @@ final class BitsOut {
         for (int k = 0; k < bits.length(); k++) {
             bytes[k / 8] |= (bits.charAt(k) - '0') << (k % 8);
         }
+        return bytes;
+    }
+
+    /** The bytes with one bit turned over. */
+    int[] bytesTurned(int bit) {
+        int[] bytes = bytes();
+        bytes[bit / 8] ^= 1 << (bit % 8);
         return bytes;
     }
 }

@@ -20,6 +20,10 @@ final class Model {
     static final class Result {
         int[] bytes;
         int[] counts;
+        List<String> commands;
+        List<String> codes;
+        /** Of pack: after how many bits each block would end in each of the three ways. */
+        List<int[]> ends;
     }
 
     private static final String[][] WORDS = {
@@ -96,6 +100,9 @@ final class Model {
         final List<Integer> text = new ArrayList<>();
         final List<Integer> ring = new ArrayList<>(List.of(1, 2, 4, 8));
         final int[] counts = new int[4];
+        /** What has been read, in words: blocks with their commands, and the descriptions of codes. */
+        final List<String> commands = new ArrayList<>();
+        final List<String> codes = new ArrayList<>();
         int end;
 
         In(String bits) {
@@ -159,6 +166,8 @@ final class Model {
         Result r = new Result();
         r.bytes = in.text.stream().mapToInt(Integer::intValue).toArray();
         r.counts = in.counts;
+        r.commands = in.commands;
+        r.codes = in.codes;
         return r;
     }
 
@@ -181,6 +190,7 @@ final class Model {
             if (coded) {
                 codedBlock(in);
             } else {
+                in.commands.add("raw " + length);
                 in.zeros();
                 for (int k = 0; k < length; k++) {
                     in.yield(in.num(8));
@@ -190,19 +200,24 @@ final class Model {
         return in;
     }
 
-    private static Map<Integer, String> readCode(In in, int s, int n) {
+    private static Map<Integer, String> readCode(In in, String name, int s, int n) {
         Map<Integer, Integer> lengths = new TreeMap<>();
+        StringBuilder row = new StringBuilder(name);
         if (in.bit() == 1) {
+            row.append(" simple");
             int count = in.num(2) + 1;
             int[][] simple = {{0}, {1, 1}, {1, 2, 2}, {2, 2, 2, 2}};
             for (int k = 0; k < count; k++) {
                 int symbol = in.num(n);
+                row.append(" ").append(symbol);
                 if (symbol >= s || lengths.put(symbol, simple[count - 1][k]) != null) {
                     throw new Failure();
                 }
             }
+            in.codes.add(row.toString());
             return codeWords(lengths);
         }
+        row.append(" long");
         int space = 64;
         int symbol = 0;
         while (space > 0) {
@@ -210,8 +225,11 @@ final class Model {
                 throw new Failure();
             }
             int b = in.num(3);
+            row.append(" ").append(b);
             if (b == 7) {
-                symbol += in.num(4) + 3;
+                int run = in.num(4) + 3;
+                row.append("*").append(run);
+                symbol += run;
             } else if (b == 0) {
                 symbol++;
             } else {
@@ -222,15 +240,17 @@ final class Model {
         if (space < 0) {
             throw new Failure();
         }
+        in.codes.add(row.toString());
         return codeWords(lengths);
     }
 
     private static void codedBlock(In in) {
         boolean map = in.bit() == 1;
-        Map<Integer, String> a = readCode(in, 256, 8);
-        Map<Integer, String> b = map ? readCode(in, 256, 8) : a;
-        Map<Integer, String> commands = readCode(in, 32, 5);
-        Map<Integer, String> distances = readCode(in, 14, 4);
+        in.commands.add((map ? "mapped " : "coded ") + (in.end - in.text.size()));
+        Map<Integer, String> a = readCode(in, "A", 256, 8);
+        Map<Integer, String> b = map ? readCode(in, "B", 256, 8) : a;
+        Map<Integer, String> commands = readCode(in, "commands", 32, 5);
+        Map<Integer, String> distances = readCode(in, "distances", 14, 4);
         in.counts[0]++;
         while (in.text.size() < in.end) {
             int symbol = in.symbol(commands);
@@ -241,16 +261,21 @@ final class Model {
             int c = symbol % 8;
             int n = insertBase[symbol / 8] + in.num(insertBits[symbol / 8]);
             int m = copyBase[c] + in.num(copyBits[c]);
+            StringBuilder row = new StringBuilder("[");
             for (int k = 0; k < n; k++) {
-                in.yield(in.symbol(small(in.text) ? b : a));
+                int literal = in.symbol(small(in.text) ? b : a);
+                in.yield(literal);
+                row.append((char) literal);
             }
+            row.append("] c").append(c);
             if (in.text.size() < in.end) {
-                copy(in, c, m, distances);
+                copy(in, c, m, distances, row);
             }
+            in.commands.add(row.toString());
         }
     }
 
-    private static void copy(In in, int c, int m, Map<Integer, String> distances) {
+    private static void copy(In in, int c, int m, Map<Integer, String> distances, StringBuilder row) {
         int symbol = c == 7 ? 0 : in.symbol(distances);
         int[] base = {1, 2, 3, 5, 9, 17, 33, 65};
         int d;
@@ -274,6 +299,7 @@ final class Model {
                 in.ring.remove(4);
             }
             in.counts[1]++;
+            row.append(" copy ").append(m).append(" from ").append(d).append(c == 7 ? "" : " by " + symbol);
             return;
         }
         if (m != 4 && m != 5 || x / 4 > 3) {
@@ -283,6 +309,7 @@ final class Model {
             in.yield(letter);
         }
         in.counts[2]++;
+        row.append(" word ").append(m).append(".").append(x).append(" by ").append(symbol);
     }
 
     // ---- packing
@@ -300,6 +327,7 @@ final class Model {
         StringBuilder out = new StringBuilder();
         List<Integer> ring = new ArrayList<>(List.of(1, 2, 4, 8));
         int[] counts = new int[4];
+        List<int[]> ends = new ArrayList<>();
         if (text.length == 0) {
             out.append("11");
         }
@@ -319,6 +347,8 @@ final class Model {
             String[] ways = {raw.toString(),
                 head + "1" + number(end - p - 1, 6) + "0" + coded(text, commands, false),
                 head + "1" + number(end - p - 1, 6) + "1" + coded(text, commands, true)};
+            ends.add(new int[] {out.length() + ways[0].length(), out.length() + ways[1].length(),
+                out.length() + ways[2].length()});
             int best = 0;
             for (int w = 1; w < 3; w++) {
                 if (ways[w].length() < ways[best].length()) {
@@ -343,6 +373,7 @@ final class Model {
             r.bytes[k / 8] |= (out.charAt(k) - '0') << (k % 8);
         }
         r.counts = counts;
+        r.ends = ends;
         return r;
     }
 

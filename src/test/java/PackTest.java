@@ -1,162 +1,86 @@
-/** Promise 6, against streams that were written by hand from the document. */
+/** Promise 6, and streams that were written by hand from the document, bit by bit. */
 public final class PackTest {
     public static void main(String[] args) {
-        emptyAndRaw();
-        copies();
-        copyLengths();
+        becomesThatOfTheText();
+        answersItsBytes();
+        textStays();
+        rawBlocks();
+        copyBits();
+        distanceBits();
+        insertBits();
         words();
-        wordOrCopy();
-        simpleCodes();
-        longCode();
-        mapOfLiterals();
-        distances();
-        blocksOf48();
-        rawBlockLeavesDistances();
-        packTwice();
+        wordsAndCopies();
+        longestStreams();
         Check.finish();
     }
 
-    private static void packs(String name, String text, BitsOut want) {
-        RingPacker x = Check.withText(Check.bytes(text));
-        Check.due(name + ": pack()", x.pack(), want.bytes().length);
-        Check.due(name + ": stream", Check.streamOf(x), want.bytes());
-        Check.due(name + ": text stays", Check.textOf(x), Check.bytes(text));
+    private static BitsOut block(int length) {
+        return new BitsOut().head(true, true, length).raw("0");
+    }
+
+    private static void becomesThatOfTheText() {
+        Check.says("The stream becomes that of the text (the text stays);");
+        Box x = Check.withText("aaaa");
+        int[] want = block(4).simple(8, 'a').simple(5, 15).simple(4, 0).bytes();
+        Check.setStream(x, new int[] {9, 8, 7, 6, 5, 4, 3, 2, 1, 0});
+        Check.due("pack over a longer stream", x.pack(), want.length);
+        new State(Check.bytes("aaaa"), want, 1, 1, 0, 2).due("packed", x);
+        Check.due("pack again", x.pack(), want.length);
+        new State(Check.bytes("aaaa"), want, 1, 1, 0, 2).due("packed again", x);
+        x.put('b');
+        Check.due("the stream stays until the next pack", Check.streamOf(x), want);
         x.clear();
-        Check.due(name + ": unpack()", x.unpack(), text.length());
-        Check.due(name + ": text again", Check.textOf(x), Check.bytes(text));
+        Check.due("pack no text", x.pack(), 1);
+        new State(new int[0], new int[] {3}, 0, 0, 0, 0).due("no text", x);
     }
 
-    private static BitsOut block(boolean last, int length, String map) {
-        return new BitsOut().head(last, true, length).raw(map);
-    }
-
-    private static void emptyAndRaw() {
-        packs("no bytes", "", new BitsOut().raw("11"));
-        packs("one byte", "\u0000", new BitsOut().rawBlock(true, "\u0000"));
-        packs("three bytes", "\u0000\u00ff\u0007", new BitsOut().rawBlock(true, "\u0000\u00ff\u0007"));
-        packs("a word's rest of three bytes is no word", "hat", new BitsOut().rawBlock(true, "hat"));
-    }
-
-    private static void copies() {
-        packs("three from the latest distance", "aaaa",
-            block(true, 4, "0").simple(8, 'a').simple(5, 15).simple(4, 0));
-        packs("four from the latest distance", "aaaaa",
-            block(true, 5, "0").simple(8, 'a').simple(5, 10).simple(4, 0));
-        packs("the nearest of two equal copies", "abcdZabcdYabcd",
-            block(true, 14, "0")
-                .raw("0").raw("111 1111 111 1111 111 1111 111 1111 111").num(89 - 72 - 3, 4)
-                .num(2, 3).num(2, 3).raw("111").num(97 - 91 - 3, 4)
-                .num(3, 3).num(3, 3).num(3, 3).num(3, 3)
-                .simple(5, 10, 18).simple(4, 0, 9)
-                .raw("1").num(5 - 2, 2).raw("100 101 110 111 01").raw("1").num(0, 2)
-                .raw("0").raw("00").raw("0"));
-    }
-
-    /** 'a' and then a copy of m bytes of it: each c with its copy bits. */
-    private static void copyLengths() {
-        int[][] rows = {{5, 3, 0, 0}, {6, 4, 0, 2}, {9, 4, 3, 2}, {10, 5, 0, 4}, {25, 5, 15, 4},
-            {26, 6, 0, 5}, {47, 6, 21, 5}};
-        for (int[] row : rows) {
-            packs("a copy of " + row[0], "a".repeat(row[0] + 1),
-                block(true, row[0] + 1, "0").simple(8, 'a').simple(5, 8 + row[1]).simple(4, 0)
-                    .num(row[2], row[3]));
+    private static void answersItsBytes() {
+        Check.says("answers how many bytes it has.");
+        String[] texts = {"", "a", "ab", "aaaa", "that that", "aXaYbYbX"};
+        int[] sizes = {1, 3, 4, 5, 6, 10};
+        for (int k = 0; k < texts.length; k++) {
+            Box x = Check.withText(texts[k]);
+            Check.due("\"" + texts[k] + "\"", x.pack(), sizes[k]);
+            Check.due("size of \"" + texts[k] + "\"", x.size(), sizes[k]);
+            Check.due("behind \"" + texts[k] + "\"", x.byteAt(sizes[k]), -1);
         }
     }
 
-    private static void words() {
-        packs("that", "that", block(true, 4, "0").simple(8, 0).simple(5, 2).simple(4, 6));
-        packs("with", "with", block(true, 4, "0").simple(8, 0).simple(5, 2).simple(4, 7));
-        packs("from", "from", block(true, 4, "0").simple(8, 0).simple(5, 2).simple(4, 8).num(0, 1));
-        packs("That", "That", block(true, 4, "0").simple(8, 0).simple(5, 2).simple(4, 9).num(0, 2));
-        packs("have and a blank", "have ",
-            block(true, 5, "0").simple(8, 0).simple(5, 2).simple(4, 10).num(3, 3));
-        packs("about and a blank", "about ",
-            block(true, 6, "0").simple(8, 0).simple(5, 3).simple(4, 10).num(3, 3));
-        packs("About", "About", block(true, 5, "0").simple(8, 0).simple(5, 3).simple(4, 9).num(3, 2));
-        packs("hich", "hich", block(true, 4, "0").simple(8, 0).simple(5, 3).simple(4, 10).num(4, 3));
-        packs("about without its a", "bout",
-            block(true, 4, "0").simple(8, 0).simple(5, 3).simple(4, 10).num(7, 3));
-        packs("a word behind a literal", "!that",
-            block(true, 5, "0").simple(8, '!').simple(5, 10).simple(4, 7));
-    }
-
-    private static void wordOrCopy() {
-        packs("a word no longer than the copy is a copy", "that that",
-            block(true, 9, "0").simple(8, 0).simple(5, 2).simple(4, 9, 10)
-                .raw("1").num(0, 3).raw("0").num(0, 2));
-        packs("a word longer than the copy is a word", "thatthat ",
-            block(true, 9, "0").simple(8, 0).simple(5, 2).simple(4, 6, 10)
-                .raw("0").raw("1").num(4 + 1 + 8 - 9, 3));
-        packs("words do not become latest distances", "thatbbbb",
-            block(true, 8, "0").simple(8, 'b').simple(5, 2, 15).simple(4, 6).raw("0 1"));
-    }
-
-    private static void simpleCodes() {
-        packs("the one of three that occurs most often comes first", "cacbccab",
-            block(true, 8, "0").simple(8, 'c', 'a', 'b').simple(5, 24).simple(4, 0)
-                .num(2, 6).raw("0 10 0 11 0 0 10 11"));
-        packs("of three equally frequent the least comes first", "cabcbbaca",
-            block(true, 9, "0").simple(8, 'a', 'b', 'c').simple(5, 24).simple(4, 0)
-                .num(3, 6).raw("11 0 10 11 10 10 0 11 0"));
-        packs("two symbols", "ababb" + "aa",
-            block(true, 7, "0").simple(8, 'a', 'b').simple(5, 24).simple(4, 0)
-                .num(1, 6).raw("0 1 0 1 1 0 0"));
-    }
-
-    private static void longCode() {
-        // Times 6 4 3 2 1 of 16 give the bits 2 2 3 3 4 with 12 of SPACE left: c and then e get one less.
-        packs("five symbols", "aabacadabbcbcaed",
-            block(true, 16, "0").raw("0")
-                .raw("111 1111 111 1111 111 1111 111 1111 111 1111").raw("111").num(97 - 90 - 3, 4)
-                .num(2, 3).num(2, 3).num(2, 3).num(3, 3).num(3, 3)
-                .simple(5, 24).simple(4, 0).num(10, 6)
-                .raw("00 00 01 00 10 00 110 00 01 01 10 01 10 00 111 110"));
-    }
-
-    private static void mapOfLiterals() {
-        packs("capitals behind small letters", "aXaYbYbX",
-            block(true, 8, "1").simple(8, 'a', 'b').simple(8, 'X', 'Y').simple(5, 24).simple(4, 0)
-                .num(2, 6).raw("00 01 11 10"));
-        packs("z is a small letter, the byte behind it is not", "zXzYbYbX",
-            block(true, 8, "1").simple(8, 'b', 'z').simple(8, 'X', 'Y').simple(5, 24).simple(4, 0)
-                .num(2, 6).raw("10 11 01 00"));
-    }
-
-    /** A raw start, then a copy of 3 to 6 bytes at distances that each symbol says. */
-    private static void distances() {
-        String start = rawStart();
-        int[][] rows = {{2, 1, 0, 0}, {4, 2, 0, 0}, {8, 3, 0, 0}, {3, 8, 0, 1}, {5, 9, 0, 2},
-            {7, 9, 2, 2}, {9, 10, 0, 3}, {16, 10, 7, 3}, {17, 11, 0, 4}, {32, 11, 15, 4}, {33, 12, 0, 5},
-            {48, 12, 15, 5}};
-        for (int[] row : rows) {
-            StringBuilder text = new StringBuilder(start);
-            for (int k = 0; k < 6; k++) {
-                text.append(text.charAt(text.length() - row[0]));
-            }
-            BitsOut want = new BitsOut().rawBlock(false, start).head(true, true, 6).raw("0")
-                .simple(8, 0).simple(5, 4).simple(4, row[1]).num(0, 2).num(row[2], row[3]);
-            packs("distance " + row[0], text.toString(), want);
+    private static void textStays() {
+        Check.says("(the text stays);");
+        for (String text : new String[] {"", "a", "that that", "aXaYbYbX", "a".repeat(96)}) {
+            Box x = Check.withText(text);
+            x.pack();
+            Check.due("length of " + text, x.length(), text.length());
+            Check.due("text of " + text, Check.textOf(x), Check.bytes(text));
         }
-        near("the fourth is forgotten, latest - 1", 9, 8, 0, 4);
-        near("latest - 1", 11, 10, 2, 4);
-        near("latest + 1", 11, 12, 2, 5);
-        near("the one before becomes the second", 10, 2, 1, 2);
-        near("the third becomes the fourth", 10, 4, 1, 3);
     }
 
-    /** Two copies of 6 bytes: the first at 9 .. 16 by symbol 10, the second by the ring. */
-    private static void near(String name, int d1, int d2, int extra, int symbol) {
-        StringBuilder text = new StringBuilder(rawStart());
-        for (int k = 0; k < 12; k++) {
-            text.append(text.charAt(text.length() - (k < 6 ? d1 : d2)));
+    private static void rawBlocks() {
+        Check.says("Not CODED: the bits up to the end of the byte under way, if one is, must be 0;");
+        Check.packs("one byte", "\u0000", new BitsOut().rawBlock(true, "\u0000"));
+        Check.packs("three bytes", "\u0000\u00ff\u0007", new BitsOut().rawBlock(true, "\u0000\u00ff\u0007"));
+        Check.packs("a word's rest of three bytes", "hat", new BitsOut().rawBlock(true, "hat"));
+    }
+
+    private static void copyBits() {
+        Check.says("m: 2, 3, 4, 5 for c = 0 .. 3; 6 + a number of 2 bits for c = 4; "
+            + "10 + a number of 4 bits for c = 5;");
+        Check.packs("three from the latest distance", "aaaa",
+            block(4).simple(8, 'a').simple(5, 15).simple(4, 0));
+        for (int m = 4; m <= 47; m++) {
+            int c = m < 6 ? m - 2 : m < 10 ? 4 : m < 26 ? 5 : 6;
+            int base = new int[] {2, 3, 4, 5, 6, 10, 26}[c];
+            int bits = new int[] {0, 0, 0, 0, 2, 4, 5}[c];
+            Check.packs("a copy of " + m, "a".repeat(m + 1),
+                block(m + 1).simple(8, 'a').simple(5, 8 + c).simple(4, 0).num(m - base, bits));
         }
-        packs(name + ": " + d1 + " and " + d2, text.toString(),
-            new BitsOut().rawBlock(false, rawStart()).head(true, true, 12).raw("0")
-                .simple(8, 0).simple(5, 4).simple(4, symbol, 10)
-                .num(0, 2).raw("1").num(extra, 3).num(0, 2).raw("0"));
+        Check.packs("a copy of 48", "a".repeat(96),
+            new BitsOut().head(false, true, 48).raw("0").simple(8, 'a').simple(5, 14).simple(4, 0).num(21, 5)
+                .head(true, true, 48).raw("0").simple(8, 0).simple(5, 6).simple(4, 0).num(22, 5));
     }
 
-    private static String rawStart() {
+    private static String different() {
         StringBuilder row = new StringBuilder();
         for (int k = 0; k < 48; k++) {
             row.append((char) (k * 5 % 256));
@@ -164,46 +88,95 @@ public final class PackTest {
         return row.toString();
     }
 
-    private static void blocksOf48() {
-        packs("48 bytes are one block", "a".repeat(48),
-            block(true, 48, "0").simple(8, 'a').simple(5, 14).simple(4, 0).num(21, 5));
-        packs("49 bytes are two", "a".repeat(49),
-            block(false, 48, "0").simple(8, 'a').simple(5, 14).simple(4, 0).num(21, 5)
-                .rawBlock(true, "a"));
-        packs("60 bytes", "a".repeat(60),
-            block(false, 48, "0").simple(8, 'a').simple(5, 14).simple(4, 0).num(21, 5)
-                .head(true, true, 12).raw("0").simple(8, 0).simple(5, 5).simple(4, 0).num(2, 4));
-        packs("96 bytes", "a".repeat(96),
-            block(false, 48, "0").simple(8, 'a').simple(5, 14).simple(4, 0).num(21, 5)
-                .head(true, true, 48).raw("0").simple(8, 0).simple(5, 6).simple(4, 0).num(22, 5));
+    /** 48 raw bytes, then a copy of 6 bytes from each distance that there is. */
+    private static void distanceBits() {
+        Check.says("6: 1; 7: 2; 8: 3 + a number of 1 bit; 9: 5 + 2 bits; 10: 9 + 3 bits; 11: 17 + 4 bits; "
+            + "12: 33 + 5 bits; 13: 65 + 6 bits.");
+        int[] base = {1, 2, 3, 5, 9, 17, 33};
+        for (int d = 1; d <= 48; d++) {
+            StringBuilder text = new StringBuilder(different());
+            for (int k = 0; k < 6; k++) {
+                text.append(text.charAt(text.length() - d));
+            }
+            int k = 0;
+            while (k < 6 && base[k + 1] <= d) {
+                k++;
+            }
+            BitsOut want = new BitsOut().rawBlock(false, different()).head(true, true, 6).raw("0")
+                .simple(8, 0).simple(5, 4);
+            if (d == 1 || d == 2 || d == 4 || d == 8) {
+                want.simple(4, d == 8 ? 3 : d / 2).num(0, 2);
+            } else {
+                want.simple(4, 6 + k).num(0, 2).num(d - base[k], Math.max(0, k - 1));
+            }
+            Check.packs("from " + d, text.toString(), want);
+        }
     }
 
-    private static void rawBlockLeavesDistances() {
-        StringBuilder text = new StringBuilder(rawStart());
-        for (int k = 20; k < 23; k++) {
-            text.setCharAt(k, text.charAt(k - 10));
+    private static void insertBits() {
+        Check.says("n: 0, 1 for i = 0, 1; 2 + a number of 2 bits for i = 2; "
+            + "6 + a number of 6 bits for i = 3.");
+        // Each three letters of this row stand in it once, so that all are literals.
+        String row = "aaabaacaadabbabcabdacbaccacdadbadcaddbbbcbbdbccb";
+        for (int n = 14; n <= 48; n++) {
+            BitsOut want = block(n).simple(8, 'a', 'b', 'c', 'd').simple(5, 24).simple(4, 0).num(n - 6, 6);
+            for (char c : row.substring(0, n).toCharArray()) {
+                want.raw(new String[] {"00", "01", "10", "11"}[c - 'a']);
+            }
+            Check.packs(n + " literals", row.substring(0, n), want);
         }
-        String start = text.toString();
-        while (text.length() < 96) {
-            text.append(text.charAt(text.length() - 10));
+        Check.packs("1 literal and three from 1", "QQQQ", block(4).simple(8, 'Q').simple(5, 15).simple(4, 0));
+        for (int n = 2; n <= 5; n++) {
+            String literals = "QQRRQ".substring(5 - n);
+            Check.packs(n + " literals and three from 1", literals + "QQQ",
+                block(n + 3).simple(8, 'Q', 'R').simple(5, 23).simple(4, 0).num(n - 2, 2)
+                    .raw(literals.replace('Q', '0').replace('R', '1')));
         }
-        packs("the copy in a raw block does not count", text.toString(),
-            new BitsOut().rawBlock(false, start).head(true, true, 48).raw("0")
-                .simple(8, 0).simple(5, 6).simple(4, 10).num(22, 5).num(1, 3));
+        for (int n = 6; n <= 7; n++) {
+            String literals = "SSQQRRQ".substring(7 - n);
+            Check.packs(n + " literals and three from 1", literals + "QQQ",
+                block(n + 3).simple(8, 'Q', 'R', 'S').simple(5, 31).simple(4, 0).num(n - 6, 6)
+                    .raw(literals.replace("Q", "0").replace("R", "10").replace("S", "11")));
+        }
     }
 
-    private static void packTwice() {
-        RingPacker x = Check.withText(Check.bytes("a".repeat(60)));
-        x.pack();
-        int[] first = Check.streamOf(x);
-        x.pack();
-        Check.due("pack again: stream", Check.streamOf(x), first);
-        Check.setText(x, Check.bytes("that"));
-        x.pack();
-        Check.due("pack another text", Check.streamOf(x),
-            block(true, 4, "0").simple(8, 0).simple(5, 2).simple(4, 6).bytes());
-        x.clear();
-        Check.due("pack no text", x.pack(), 1);
-        Check.due("its byte", x.byteAt(0), 3);
+    private static void words() {
+        Check.says("If d is greater than THERE, d - THERE - 1 is x, and the copy is a WORD");
+        Check.packs("that", "that", block(4).simple(8, 0).simple(5, 2).simple(4, 6));
+        Check.packs("with", "with", block(4).simple(8, 0).simple(5, 2).simple(4, 7));
+        Check.packs("from", "from", block(4).simple(8, 0).simple(5, 2).simple(4, 8).num(0, 1));
+        Check.packs("have", "have", block(4).simple(8, 0).simple(5, 2).simple(4, 8).num(1, 1));
+        Check.packs("That", "That", block(4).simple(8, 0).simple(5, 2).simple(4, 9).num(0, 2));
+        Check.packs("have and a blank", "have ",
+            block(5).simple(8, 0).simple(5, 2).simple(4, 10).num(3, 3));
+        Check.packs("about and a blank", "about ",
+            block(6).simple(8, 0).simple(5, 3).simple(4, 10).num(3, 3));
+        Check.packs("About", "About", block(5).simple(8, 0).simple(5, 3).simple(4, 9).num(3, 2));
+        Check.packs("hich", "hich", block(4).simple(8, 0).simple(5, 3).simple(4, 10).num(4, 3));
+        Check.packs("bout", "bout", block(4).simple(8, 0).simple(5, 3).simple(4, 10).num(7, 3));
+        Check.packs("a word behind a literal", "!that",
+            block(5).simple(8, '!').simple(5, 10).simple(4, 7));
+    }
+
+    private static void wordsAndCopies() {
+        Check.says("A command is made of each copy or word with the literals since the one before (or since p),");
+        Check.packs("a word and a copy", "that that",
+            block(9).simple(8, 0).simple(5, 2).simple(4, 9, 10).raw("1").num(0, 3).raw("0").num(0, 2));
+        Check.packs("two words", "thatthat ",
+            block(9).simple(8, 0).simple(5, 2).simple(4, 6, 10).raw("0").raw("1").num(4 + 1 + 8 - 9, 3));
+        Check.packs("a word, and a copy from the latest distance", "thatbbbb",
+            block(8).simple(8, 'b').simple(5, 2, 15).simple(4, 6).raw("0 1"));
+    }
+
+    private static void longestStreams() {
+        Check.says("STREAM: at most 200 bytes 0 .. 255.");
+        StringBuilder text = new StringBuilder();
+        for (int k = 0; k < 96; k++) {
+            text.append((char) (k * 7 % 256));
+        }
+        Check.packs("96 different bytes", text.toString(), new BitsOut().rawBlock(false, text.substring(0, 48))
+            .rawBlock(true, text.substring(48)));
+        Box x = Check.withText(text.toString());
+        Check.due("they make 99 bytes", x.pack(), 1 + 48 + 2 + 48);
     }
 }
