@@ -24,7 +24,7 @@ public final class BlockTest {
     private static void lowestBitFirst() {
         Check.says("Its BITS are taken from the lowest bit of byte 0 up,");
         yieldsBytes("LAST 1, EMPTY 1", "", 0b11);
-        failsBytes("LAST and EMPTY as the highest bits", 0b11000000);
+        Check.fails("LAST and EMPTY as the highest bits", new int[] {0b11000000});
         yieldsBytes("LAST 1, EMPTY 0, CODED 0", "A", 0b001, 0, 'A');
         Check.says("A NUMBER of n bits has its lowest bit first.");
         yieldsBytes("length - 1 is 1", "AB", 0b00001_001, 0, 'A', 'B');
@@ -44,10 +44,6 @@ public final class BlockTest {
         Check.due(name + ": unpack()", x.unpack(), want.length());
         Check.due(name + ": text", Check.textOf(x), Check.bytes(want));
         Check.due(name + ": stream stays", Check.streamOf(x), stream);
-    }
-
-    private static void failsBytes(String name, int... stream) {
-        Check.fails(name, stream);
     }
 
     private static void lastAndEmpty() {
@@ -105,6 +101,9 @@ public final class BlockTest {
             Check.fails("bit " + bit + " before the raw bytes", first.bytesTurned(bit));
         }
         Check.yields("all of them 0", "a", first);
+        Check.fails("a bit before raw bytes that are not there", new int[] {1, 2});
+        Check.fails("a bit before raw bytes of which none is there, behind a block",
+            new BitsOut().rawBlock(false, "ab").head(true, false, 1).raw("1"));
         for (int n = 6; n < 14; n++) {
             int end = new BitsOut().literalsOfOneBit(false, n).head(true, false, 2).length();
             BitsOut bits = new BitsOut().literalsOfOneBit(false, n).rawBlock(true, "\u00ff\u0000");

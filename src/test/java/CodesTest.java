@@ -57,8 +57,6 @@ public final class CodesTest {
 
     private static void threeSymbols() {
         Check.says("but of three the one that occurs most often comes first (of several such the least).");
-        String end = "simple 24";
-        Check.due("the commands are of literals alone", LITERALS_ONLY.endsWith(end), true);
         literals("a 3, b 2, c 2", "bbaccaa", "A simple 97 98 99");
         literals("a 2, b 3, c 2", "bbcaacb", "A simple 98 97 99");
         literals("a 2, b 2, c 4", "abcbaccc", "A simple 99 97 98");
@@ -126,12 +124,21 @@ public final class CodesTest {
         // Of 16 literals: 4 2 4 4 2, just all of the SPACE.
         Check.describes("SPACE is 0 at once", "abcdccdcccdadedacabe", TO_LETTERS + "2 3 2 2 3",
             "commands simple 18 24", "distances simple 8");
+        // Of 48: seven times 6 3 (just 48), 3 4 (just 48), three times 1 6, SPACE 1: the first of those gets it.
+        literals("SPACE is 1, the lowest that may have it is i", "iffagjfbgdccdcfgdhdfefaaadhbbbgbegabechckecaedeg",
+            TO_LETTERS + "3 3 3 3 3 3 3 4 5 6 6");
+        literals("SPACE is 1, the lowest that may have it is a", "dhbcjcchfkebkjfbheibbgcfgfjeejgabejcgfgcjhekhgfh",
+            TO_LETTERS + "5 3 3 6 3 3 3 3 6 3 4");
     }
 
     private static void aboveOne() {
         Check.says("and one whose b is above 1");
         // Of 13: 7 1, 2 3, 2 3, 1 4, 1 4: SPACE 8 goes to b, as a has one bit.
         literals("7 2 2 1 1", "aaadcababceaa", TO_LETTERS + "1 2 3 4 4");
+        Check.says("the least b from 1 on with k << b at least t;");
+        // Of 13: 1 4, 1 4, 2 3, 2 3, 7 1: SPACE 8 goes to a and b. Of 16: 8 1 (just 16), and SPACE is 0.
+        literals("1 1 2 2 7", "dedacebeeecee", TO_LETTERS + "3 3 3 3 1");
+        literals("2 2 2 2 8", "eaeeebeecedacdbe", TO_LETTERS + "3 3 3 3 1");
     }
 
     private static void longCommandsAndDistances() {
@@ -183,6 +190,18 @@ public final class CodesTest {
         Check.describes("the second block has its own", "a".repeat(48) + "b".repeat(20), "A simple 97",
             "commands simple 14", "distances simple 0", "A simple 98", "commands simple 13",
             "distances simple 0");
+        Box mapped = Check.withText("aXaYbYbX");
+        mapped.pack();
+        Check.setText(mapped, Check.bytes("cPcQdQdP"));
+        mapped.pack();
+        Check.due("and so has the next text with MAP 1", Model.unpack(Check.streamOf(mapped)).codes,
+            "A simple 99 100", "B simple 80 81", LITERALS_ONLY, "distances simple 0");
+        Box copies = Check.withText("acbbbbbacbabbbbcbbcbbbdcb");
+        copies.pack();
+        Check.setText(copies, Check.bytes("aaaaa"));
+        copies.pack();
+        Check.due("and so has one with a copy", Model.unpack(Check.streamOf(copies)).codes,
+            "A simple 97", "commands simple 10", "distances simple 0");
         Box x = Check.withText("abaaeabbabdacccd");
         x.pack();
         Check.setText(x, Check.bytes("bbbaabb"));

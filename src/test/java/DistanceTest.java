@@ -1,3 +1,5 @@
+import java.util.Arrays;
+
 /** The Term DISTANCE, by streams that are unpacked: the latest distances, copies and words. */
 public final class DistanceTest {
     private static final String FORTY = "0123456789ABCDEFGHIJKLMNOPQRSTUVWXYZ.,;:";
@@ -114,7 +116,7 @@ public final class DistanceTest {
         Check.setStream(x, stream);
         Check.due("three at the latest in the next stream", x.unpack(), 43);
         Check.due("they are from 1", Check.textOf(x), Check.bytes(FORTY + ":::"));
-        Box y = Check.withStream(java.util.Arrays.copyOf(other, other.length + 1));
+        Box y = Check.withStream(Arrays.copyOf(other, other.length + 1));
         Check.due("one that fails behind its copy from 9", y.unpack(), RingPacker.FAILS);
         Check.setStream(y, stream);
         Check.due("three at the latest behind a failure", y.unpack(), 43);

@@ -11,6 +11,7 @@ public final class FailsTest {
     public static void main(String[] args) {
         streamEnds();
         streamEndsInAField();
+        fullStreamEnds();
         bitsNotZero();
         byteFollows();
         tooLongText();
@@ -19,6 +20,7 @@ public final class FailsTest {
         tooLongWord();
         distanceZero();
         wordNotAsSaid();
+        wordNotAsSaidPassedOver();
         symbolNotBelowS();
         symbolTwice();
         runBeyondTheLastSymbol();
@@ -54,6 +56,25 @@ public final class FailsTest {
             x.pack();
             everyPrefixFails("the stream of \"" + text + "\"", Check.streamOf(x));
         }
+    }
+
+    /** Two literal codes written out and a raw block behind them: 200 bytes, and no last block. */
+    private static void fullStreamEnds() {
+        Check.says("UNPACKING FAILS when the stream ends before what is read;");
+        BitsOut bits = new BitsOut().head(false, true, 1).raw("1");
+        for (int code = 0; code < 2; code++) {
+            bits.raw("0").num(0, 3 * 254).lengths(1, 1);
+        }
+        bits.simple(5, 8).simple(4, 0).raw("1").rawBlock(false, "xyz");
+        Check.due("bits of the stream", bits.length(), 1600);
+        Box x = Check.withStream(bits.bytes());
+        Check.due("behind 200 bytes", x.unpack(), RingPacker.FAILS);
+        new State(new int[0], bits.bytes(), 0, 0, 0, 0).due("after it", x);
+        int[] same = new int[200];
+        Arrays.fill(same, 64);
+        Box y = Check.withStream(same);
+        Check.due("200 bytes of 64", y.unpack(), RingPacker.FAILS);
+        new State(new int[0], same, 0, 0, 0, 0).due("after them", y);
     }
 
     /** The same fields behind 6 .. 13 literals of one bit, so that each is cut at each of its bits. */
@@ -204,6 +225,9 @@ public final class FailsTest {
         Check.yields("the latest is 2", FORTY + ";:::",
             behindForty(4).simple(5, 0).simple(4, 4, 7).raw("1 0"));
         Check.fails("2, 1 and then 0", behindForty(6).simple(5, 0).simple(4, 4, 7).raw("1 0 0"));
+        Check.fails("0, and a copy that fills the block", behindForty(2).simple(5, 0).simple(4, 4, 7).raw("0 1"));
+        Check.fails("0, and two copies that fill the block",
+            behindForty(4).simple(5, 0).simple(4, 4, 7).raw("0 1 1"));
     }
 
     private static void wordNotAsSaid() {
@@ -228,6 +252,23 @@ public final class FailsTest {
             Check.fails("m is 6, in a block of " + length,
                 behindForty(length).simple(5, 4).simple(4, 12).num(0, 2).num(8, 5));
         }
+    }
+
+    /** What follows would fill the block, if the word were passed over. */
+    private static void wordNotAsSaidPassedOver() {
+        Check.says("when m or x >> 2 of a word is not as said;");
+        Check.fails("m is 3, then a copy of 3",
+            behindForty(3).simple(5, 1).simple(4, 6, 12).raw("1").num(8, 5).raw("0"));
+        Check.fails("m is 2, then a copy of 2",
+            behindForty(2).simple(5, 0).simple(4, 6, 12).raw("1").num(8, 5).raw("0"));
+        Check.fails("m is 6, then a copy of 6",
+            behindForty(6).simple(5, 4).simple(4, 6, 12).num(0, 2).raw("1").num(8, 5).num(0, 2).raw("0"));
+        Check.fails("x >> 2 is 4, then a copy of 4",
+            behindForty(4).simple(5, 2).simple(4, 6, 12).raw("1").num(24, 5).raw("0"));
+        Check.fails("x >> 2 is 4, then a copy of 5",
+            behindForty(5).simple(5, 3).simple(4, 6, 12).raw("1").num(24, 5).raw("0"));
+        Check.fails("c = 7 where no byte is, then a word",
+            coded(4).simple(8, 0).simple(5, 2, 7).simple(4, 6).raw("1 0"));
     }
 
     private static void symbolNotBelowS() {

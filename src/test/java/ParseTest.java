@@ -1,3 +1,6 @@
+import java.util.Arrays;
+import java.util.List;
+
 /** The Term PACKING up to its commands: how a text is cut, parsed and made into commands. */
 public final class ParseTest {
     private static final String ALL_DIFFERENT = allDifferent();
@@ -200,7 +203,7 @@ public final class ParseTest {
                 "[z] c4 copy 7 from 1 by 0", "[" + three + "] c0");
         }
         for (String four : new String[] {"hich", "here", "heir", "bout"}) {
-            int x = 12 + java.util.List.of("hich", "here", "heir", "bout").indexOf(four);
+            int x = 12 + List.of("hich", "here", "heir", "bout").indexOf(four);
             Check.parses(four + " is one", "zzzzzzzz" + four, "coded 12",
                 "[z] c4 copy 7 from 1 by 0", "[] c3 word 5." + x + " by 11");
         }
@@ -320,7 +323,7 @@ public final class ParseTest {
         int[] four = {20, 6, 40, 6, 60, 6, 58, 6};
         int[][] near = {{1, 6}, {2, 7}, {4, 8}, {8, 9}, {65, 13}, {66, 13}};
         for (int[] row : near) {
-            int[] pairs = java.util.Arrays.copyOf(four, 10);
+            int[] pairs = Arrays.copyOf(four, 10);
             pairs[8] = row[0];
             pairs[9] = 5;
             Check.parses("from " + row[0] + ", forgotten", withCopies(pairs), "raw 48", "coded 29",

@@ -1,3 +1,5 @@
+import java.util.Arrays;
+
 /** The Term PREFIX CODE, by streams that are unpacked. */
 public final class PrefixCodeTest {
     private static final String NINE = "abcdefghi";
@@ -158,8 +160,12 @@ public final class PrefixCodeTest {
                     words.append(symbol >> k & 1);
                 }
             }
-            Check.yields((1 << b) + " symbols of " + b + " bits", text.toString(),
-                literals(bits, 1 << b, words.toString()));
+            String name = (1 << b) + " symbols of " + b + " bits";
+            Check.yields(name, text.toString(), literals(bits, 1 << b, words.toString()));
+            Box x = Check.withStream(bits.bytes());
+            x.unpack();
+            Check.due(name + ", unpacked twice", x.unpack(), 1 << b);
+            Check.due(name + ", the text", Check.textOf(x), Check.bytes(text.toString()));
         }
     }
 
@@ -195,9 +201,9 @@ public final class PrefixCodeTest {
             for (int k = code[last] - 1; k >= 0; k--) {
                 bits.append(word >> k & 1);
             }
-            Check.yields("literals by " + java.util.Arrays.toString(code), String.valueOf((char) last),
+            Check.yields("literals by " + Arrays.toString(code), String.valueOf((char) last),
                 literals(coded(1).raw("0").lengths(code), 1, bits.toString()));
-            Check.yields("distances by " + java.util.Arrays.toString(code), "a",
+            Check.yields("distances by " + Arrays.toString(code), "a",
                 coded(1).simple(8, 'a').simple(5, 8).raw("0").lengths(code));
         }
     }

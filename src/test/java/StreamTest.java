@@ -1,3 +1,5 @@
+import java.util.Arrays;
+
 /** Promises 8 to 12: size, byteAt, poke, append, trim. */
 public final class StreamTest {
     public static void main(String[] args) {
@@ -144,7 +146,7 @@ public final class StreamTest {
         Check.says("Puts a byte at the end of the stream, whatever made it: true;");
         Box x = packedBox();
         State before = State.of(x);
-        int[] stream = java.util.Arrays.copyOf(before.stream, 7);
+        int[] stream = Arrays.copyOf(before.stream, 7);
         stream[6] = 200;
         Check.due("append behind a pack", x.append(200), true);
         new State(before.text, stream, before.counts).due("appended", x);
@@ -196,7 +198,7 @@ public final class StreamTest {
         Check.says("STREAM: at most 200 bytes 0 .. 255.");
         BitsOut bits = new BitsOut().head(false, true, 1).raw("1");
         for (int code = 0; code < 2; code++) {
-            bits.raw("0").num(0, 3 * 126).num(0, 3 * 128).num(1, 3).num(1, 3);
+            bits.raw("0").num(0, 3 * 254).lengths(1, 1);
         }
         bits.simple(5, 8).simple(4, 0).raw("1").rawBlock(false, "xy").raw("11");
         Check.due("bytes of the stream", bits.bytes().length, 200);
@@ -216,7 +218,7 @@ public final class StreamTest {
         State before = State.of(x);
         for (int n = 6; n >= 0; n--) {
             Check.due("trim(" + n + ")", x.trim(n), true);
-            new State(before.text, java.util.Arrays.copyOf(before.stream, n), before.counts)
+            new State(before.text, Arrays.copyOf(before.stream, n), before.counts)
                 .due("trimmed to " + n, x);
         }
         Check.due("trim(0) again", x.trim(0), true);
