@@ -65,6 +65,13 @@ final class Check {
         before.due("after " + what, x);
     }
 
+    /** An unpack of what stands in the object: it fails and changes nothing that can be read. */
+    static void failsHere(String what, Box x) {
+        State before = State.of(x);
+        due(what, x.unpack(), RingPacker.FAILS);
+        before.due("after " + what, x);
+    }
+
     static int[] bytes(String s) {
         return s.chars().toArray();
     }

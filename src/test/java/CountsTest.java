@@ -68,7 +68,7 @@ public final class CountsTest {
         Check.setStream(x, coded(true, 4).simple(8, 'q').simple(5, 2).simple(4, 0).bytes());
         counts("with a stream", x, 0, 0, 0, 0);
         x.append(0);
-        Check.due("an unpack that fails", x.unpack(), RingPacker.FAILS);
+        Check.failsHere("an unpack that fails", x);
         counts("after an unpack that failed", x, 0, 0, 0, 0);
         x.trim(x.size() - 1);
         Check.due("one that does not", x.unpack(), 4);
@@ -101,10 +101,10 @@ public final class CountsTest {
         Box x = Check.withText("that that");
         x.pack();
         Check.setStream(x, coded(false, 4).simple(8, 'q').simple(5, 2).simple(4, 0).bytes());
-        Check.due("a coded block and no last one", x.unpack(), RingPacker.FAILS);
+        Check.failsHere("a coded block and no last one", x);
         counts("after the failure", x, 1, 1, 1, 4);
         Check.setStream(x, new int[] {3, 0});
-        Check.due("an empty stream and a byte", x.unpack(), RingPacker.FAILS);
+        Check.failsHere("an empty stream and a byte", x);
         counts("after that failure", x, 1, 1, 1, 4);
         x.trim(1);
         Check.due("an empty stream", x.unpack(), 0);

@@ -117,7 +117,7 @@ public final class DistanceTest {
         Check.due("three at the latest in the next stream", x.unpack(), 43);
         Check.due("they are from 1", Check.textOf(x), Check.bytes(FORTY + ":::"));
         Box y = Check.withStream(Arrays.copyOf(other, other.length + 1));
-        Check.due("one that fails behind its copy from 9", y.unpack(), RingPacker.FAILS);
+        Check.failsHere("one that fails behind its copy from 9", y);
         Check.setStream(y, stream);
         Check.due("three at the latest behind a failure", y.unpack(), 43);
         Check.due("they are from 1 too", Check.textOf(y), Check.bytes(FORTY + ":::"));

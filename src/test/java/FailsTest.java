@@ -415,15 +415,15 @@ public final class FailsTest {
         State before = State.of(x);
         int last = x.byteAt(size - 1);
         x.poke(size - 1, last | 128);
-        Check.due("a bit left over", x.unpack(), RingPacker.FAILS);
+        Check.failsHere("a bit left over", x);
         x.poke(size - 1, last);
         before.due("after a bit left over", x);
         x.append(0);
-        Check.due("a byte behind the end", x.unpack(), RingPacker.FAILS);
+        Check.failsHere("a byte behind the end", x);
         x.trim(size);
         before.due("after a byte behind the end", x);
         x.trim(size - 1);
-        Check.due("a byte too few", x.unpack(), RingPacker.FAILS);
+        Check.failsHere("a byte too few", x);
         x.append(last);
         before.due("after a byte too few", x);
         Check.due("the sound stream", x.unpack(), 8);

@@ -272,7 +272,7 @@ public final class PrefixCodeTest {
                 .num(0, 2).raw("0 10"));
         int[] sound = literals(coded(2).raw("0").lengths(0, 1, 1), 2, "0 1").bytes();
         Box x = Check.withStream(literals(coded(2).raw("0").lengths(1, 6, 6, 6, 1), 2, "0 0").bytes());
-        Check.due("a code that fails", x.unpack(), RingPacker.FAILS);
+        Check.failsHere("a code that fails", x);
         Check.setStream(x, sound);
         Check.due("a sound one behind it", x.unpack(), 2);
         Check.due("its text", Check.textOf(x), new int[] {1, 2});

@@ -42,8 +42,6 @@ public final class StreamTest {
             x.append(k);
             Check.due("after " + k + " bytes", x.size(), k);
         }
-        x.append(1);
-        Check.due("after a refused one", x.size(), 200);
         x.trim(7);
         Check.due("after trim(7)", x.size(), 7);
         x.poke(0, 1);
@@ -187,10 +185,13 @@ public final class StreamTest {
             Check.due("a 201st byte " + b, x.append(b), false);
         }
         new State(new int[0], row(200), 0, 0, 0, 0).due("full", x);
-        Check.due("room again after trim(199)", x.trim(199), true);
-        Check.due("for one byte", x.append(3), true);
-        Check.due("and no more", x.append(4), false);
-        Check.due("byteAt(199)", x.byteAt(199), 3);
+        Box y = Check.withStream(row(200));
+        Check.due("room again after trim(199)", y.trim(199), true);
+        Check.due("for one byte", y.append(3), true);
+        Check.due("and no more", y.append(4), false);
+        int[] full = row(200);
+        full[199] = 3;
+        new State(new int[0], full, 0, 0, 0, 0).due("full again", y);
     }
 
     /** Both literal codes written out symbol by symbol, then a raw block: 200 bytes just so. */
@@ -206,7 +207,7 @@ public final class StreamTest {
         Box x = Check.withStream(bits.bytes());
         Check.due("trim(199)", x.trim(199), true);
         Check.due("199 of them", x.unpack(), RingPacker.FAILS);
-        Check.due("the text stays", x.length(), 0);
+        new State(new int[0], Arrays.copyOf(bits.bytes(), 199), 0, 0, 0, 0).due("after 199 of them", x);
     }
 
     private static void trimLeavesTheFirst() {

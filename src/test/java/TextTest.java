@@ -89,12 +89,9 @@ public final class TextTest {
             Check.due("a 97th byte " + b, x.put(b), false);
         }
         new State(Check.bytes(MANY.substring(0, 96)), new int[0], 0, 0, 0, 0).due("full", x);
-        x.pack();
-        State packed = State.of(x);
-        Check.due("a 97th byte behind a pack", x.put(7), false);
-        Check.due("the length stays", x.length(), 96);
-        Check.due("no place 96", x.at(96), -1);
-        Check.due("the stream stays", Check.streamOf(x), packed.stream);
+        Box y = Check.withText("ab".repeat(48));
+        y.pack();
+        Check.refuses("a 97th byte behind a pack", y, () -> y.put(7));
     }
 
     private static void putBehindUnpackedText() {
@@ -102,15 +99,16 @@ public final class TextTest {
         Box x = Check.withStream(new BitsOut().rawBlock(false, MANY.substring(0, 64))
             .rawBlock(true, MANY.substring(64, 95)).bytes());
         Check.due("95 bytes unpacked", x.unpack(), 95);
+        int[] stream = Check.streamOf(x);
         Check.due("put behind them", x.put('!'), true);
         Check.due("a 97th", x.put('!'), false);
-        Check.due("text", Check.textOf(x), Check.bytes(MANY.substring(0, 95) + "!"));
-        Check.setStream(x, new BitsOut().rawBlock(false, MANY.substring(0, 64))
-            .rawBlock(true, MANY.substring(64, 96)).bytes());
-        Check.due("96 bytes unpacked", x.unpack(), 96);
-        Check.due("put behind 96 unpacked bytes", x.put('!'), false);
-        Check.due("length", x.length(), 96);
-        Check.due("at(95)", x.at(95), MANY.charAt(95));
+        new State(Check.bytes(MANY.substring(0, 95) + "!"), stream, 0, 0, 0, 0).due("95 bytes and one", x);
+        stream = new BitsOut().rawBlock(false, MANY.substring(0, 64))
+            .rawBlock(true, MANY.substring(64, 96)).bytes();
+        Box y = Check.withStream(stream);
+        Check.due("96 bytes unpacked", y.unpack(), 96);
+        Check.due("put behind 96 unpacked bytes", y.put('!'), false);
+        new State(Check.bytes(MANY.substring(0, 96)), stream, 0, 0, 0, 0).due("96 bytes", y);
     }
 
     private static void clearEmptiesTheText() {
@@ -128,12 +126,13 @@ public final class TextTest {
         State.empty().due("a new object cleared", y);
         Box z = fullBox();
         z.clear();
+        int[] others = new int[96];
         for (int k = 0; k < 96; k++) {
+            others[k] = 255 - k;
             Check.due("put number " + k + " after clear", z.put(255 - k), true);
         }
         Check.due("a 97th after clear", z.put(1), false);
-        Check.due("at(0) after clear", z.at(0), 255);
-        Check.due("at(95) after clear", z.at(95), 160);
+        new State(others, new int[0], 0, 0, 0, 0).due("full again", z);
     }
 
     private static void lengthCountsBytes() {
@@ -144,14 +143,11 @@ public final class TextTest {
             x.put(k);
             Check.due("after " + k + " bytes", x.length(), k);
         }
-        x.put(1);
-        Check.due("after a refused one", x.length(), 96);
         x.pack();
         Check.due("after pack", x.length(), 96);
         x.clear();
         Check.due("after clear", x.length(), 0);
         Check.due("append leaves it", x.append(1) ? x.length() : -2, 0);
-        Check.due("a failed unpack leaves it", x.unpack() == RingPacker.FAILS ? x.length() : -2, 0);
         x.trim(x.size() - 1);
         Check.due("unpack sets it", x.unpack() == 96 ? x.length() : -2, 96);
     }
