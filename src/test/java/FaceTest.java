@@ -31,7 +31,40 @@ public final class FaceTest {
         Check.due("the class is public and final",
             RingPacker.class.getModifiers(), Modifier.PUBLIC | Modifier.FINAL);
         Check.due("FAILS", RingPacker.FAILS, -1);
+        namesOfTheFaceStandOnce(RingPacker.class, namesOfTheFace());
+        classesInside();
         Check.finish();
+    }
+
+    private static Set<String> namesOfTheFace() {
+        Set<String> names = new TreeSet<>();
+        for (Method m : RingPacker.class.getDeclaredMethods()) {
+            if (Modifier.isPublic(m.getModifiers())) {
+                names.add(m.getName());
+            }
+        }
+        return names;
+    }
+
+    private static void namesOfTheFaceStandOnce(Class<?> type, Set<String> names) {
+        for (Method m : type.getDeclaredMethods()) {
+            boolean alike = names.contains(m.getName());
+            boolean isOfTheFace = type == RingPacker.class && Modifier.isPublic(m.getModifiers());
+            Check.due(type.getName() + "." + m.getName() + " bears a name of the face", alike, isOfTheFace);
+        }
+    }
+
+    private static void classesInside() {
+        Set<String> names = namesOfTheFace();
+        for (Class<?> inside : RingPacker.class.getDeclaredClasses()) {
+            int kind = inside.getModifiers();
+            Check.due(inside.getName() + " is static", Modifier.isStatic(kind), true);
+            Check.due(inside.getName() + " is seen from outside",
+                Modifier.isPublic(kind) || Modifier.isProtected(kind), false);
+            namesOfTheFaceStandOnce(inside, names);
+        }
+        int classes = 1 + RingPacker.class.getDeclaredClasses().length;
+        Check.due("at most twelve classes: " + classes, classes <= 12, true);
     }
 
     private static String parameters(Method m) {
